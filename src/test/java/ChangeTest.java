@@ -51,6 +51,25 @@ public final class ChangeTest {
         CHECK.due("11: no such", x.join(-1, 1), SlotMesh.UNKNOWN);
         SlotMesh y = twoPairs();
         CHECK.due("11: one in common", y.join(0, 2), 2);
+        everyPairClashes();
+    }
+
+    /** Senders 0 to 3, each with a listener of its own, take the one slot; then each pair of them is joined. */
+    private static void everyPairClashes() {
+        SlotMesh x = Check.of("mesh 8 1 1 1;link 0 4;link 1 5;link 2 6;link 3 7;share 0 16;share 1 16;share 2 16;share 3 16"
+            + ";want 4 0;want 5 0;want 6 0;want 7 0");
+        CHECK.due("11: four senders", x.cycle(0), 15);
+        for (int one = 0; one < 4; one++) {
+            for (int other = 0; other < 4; other++) {
+                if (one != other) {
+                    CHECK.due("18: spoils " + one + ", " + other, x.spoils(one, other), 1);
+                    CHECK.due("11: clash of " + one + ", " + other, x.join(one, other), 1);
+                    CHECK.due("12: parted " + one + ", " + other, x.part(other, one), 0);
+                }
+            }
+        }
+        CHECK.due("11: a chain of three, all near", x.join(0, 1) * 10 + x.join(1, 2), 13);
+        CHECK.due("11: a chain of four, one pair apart", x.join(2, 3), 5);
     }
 
     private static void part() {

@@ -192,6 +192,13 @@ public final class CycleTest {
             }
         }
         CHECK.due("9: one frame() is one to undo", x.told(9), 6);
+        SlotMesh at = Check.of("mesh 4 1 1 7;want 0 0");
+        SlotMesh most = Check.of("mesh 4 1 1 7;want 0 0");
+        for (int i = 0; i < 12; i++) {
+            at.frame(1);
+        }
+        CHECK.due("9: as many as may be", most.frame(12), 1);
+        CHECK.due("9: lots behind twelve", most.told(7), at.told(7));
     }
 
     private static void lastCycle() {

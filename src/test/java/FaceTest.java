@@ -32,11 +32,26 @@ public final class FaceTest {
             }
         }
         check.due("methods " + found, found.equals(wanted));
+        classesInside(check);
         for (Field field : SlotMesh.class.getDeclaredFields()) {
             int how = field.getModifiers();
             check.due(field + " hidden or a constant", Modifier.isPrivate(how) || Modifier.isStatic(how) && Modifier.isFinal(how));
         }
         check.end();
+    }
+
+    private static void classesInside(Check check) {
+        for (Class<?> inside : SlotMesh.class.getDeclaredClasses()) {
+            int how = inside.getModifiers();
+            check.due(inside + " is static and not public", Modifier.isStatic(how) && !Modifier.isPublic(how) && !Modifier.isProtected(how));
+            check.due(inside + " has some twenty fields at most", inside.getDeclaredFields().length <= 20);
+            for (Method method : inside.getDeclaredMethods()) {
+                check.due(method + " takes seven at most", method.getParameterCount() <= 7);
+                for (String name : METHODS) {
+                    check.due(method + " is not named as " + name, !name.startsWith(method.getName() + "/"));
+                }
+            }
+        }
     }
 
     private static void constants(Check check) {

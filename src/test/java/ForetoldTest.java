@@ -73,6 +73,11 @@ public final class ForetoldTest {
         String before = Check.picture(x);
         CHECK.due("19: whoever holds", x.fewest(), 1);
         CHECK.due("19: nothing changed", Check.picture(x).equals(before));
+        SlotMesh z = Check.of("mesh 4 2 1 1;link 2 3;share 3 16;want 3 2;want 2 0;want 1 0");
+        z.frame(1);
+        CHECK.due("19: the last holds both slots", z.station(3, 4), 3);
+        z.join(0, 3);
+        CHECK.due("19: what is held does not matter", z.fewest(), 2);
     }
 
     private static void hops() {

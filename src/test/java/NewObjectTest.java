@@ -86,6 +86,13 @@ public final class NewObjectTest {
         CHECK.due("7: cycle", y.cycle(0), 1);
         CHECK.due("7: a holder does not contend for the same one", y.slot(0, 1), 0);
         CHECK.due("7: it does for another one, wanting two", y.slot(1, 1), 1);
+        SlotMesh nearFirst = Check.of("mesh 4 1 1 1;link 2 3;share 2 16;want 3 0;want 1 0");
+        nearFirst.cycle(0);
+        CHECK.due("7: the third holds it", nearFirst.slot(0, 0), 4);
+        CHECK.due("7: the first is out of reach", nearFirst.slot(0, 1), 1);
+        nearFirst.join(0, 1);
+        nearFirst.join(1, 2);
+        CHECK.due("7: the first is near", nearFirst.slot(0, 1), 0);
     }
 
     private static void told() {

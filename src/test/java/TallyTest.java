@@ -88,6 +88,18 @@ public final class TallyTest {
         CHECK.due("23: least, the last", x.reckon(1, 2), 49997);
         x.append(1, 0);
         CHECK.due("23: swing of six", x.reckon(1, 3), 50000 - 1 + 4 - 9 + 20 + 5 * 999 - 42);
+        x.tally(1, 3, 5, 1, 3);
+        CHECK.due("23: least, in the middle", x.reckon(1, 2), 50001);
+        CHECK.due("23: greatest, the first", x.reckon(1, 1), 50005);
+        x.tally(1, 3, 5, 9, 3);
+        CHECK.due("23: greatest, in the middle", x.reckon(1, 1), 50009);
+        CHECK.due("23: least, the last", x.reckon(1, 2), 50003);
+        x.tally(1, 3, 5, -9, 700);
+        x.pop(1);
+        x.pop(1);
+        for (int what = 0; what <= 3; what++) {
+            CHECK.due("23: those that went do not count", x.reckon(1, what), 50005);
+        }
         x.tally(2, 3, 999, -999, 999);
         x.append(2, 2);
         CHECK.due("23: swing, greatest", x.reckon(2, 3), 50000 + 999 * (1 + 2 + 3) + 999 * (-4 - 5 - 6));
@@ -138,6 +150,7 @@ public final class TallyTest {
         x.tally(0, 3, -900, -900, 900);
         CHECK.due("25: held sums are of what was", x.each(0, 2), 3);
         numbers("25: held sums are of what was", x, 0, -900, -999, -900);
+        ofEight();
         x.tally(0, 0, 0, 0, 0);
         for (int what = 0; what <= 2; what++) {
             CHECK.due("25: of none", x.each(0, what), 0);
@@ -148,6 +161,21 @@ public final class TallyTest {
         CHECK.due("25: no such what", x.each(0, -1), SlotMesh.OUTSIDE);
         CHECK.due("25: OUTSIDE goes first", x.each(1, 3), SlotMesh.OUTSIDE);
         CHECK.due("25: missing", x.each(1, 0), SlotMesh.NULL);
+    }
+
+    private static void ofEight() {
+        SlotMesh x = new SlotMesh();
+        x.tally(0, 2, 1, 2, 0);
+        x.append(0, 0);
+        x.append(0, 0);
+        CHECK.due("23: sum of eight", x.reckon(0, 0), 50012);
+        CHECK.due("23: greatest of eight", x.reckon(0, 1), 50002);
+        CHECK.due("23: least of eight", x.reckon(0, 2), 50001);
+        CHECK.due("23: swing of eight", x.reckon(0, 3), 50000 + 1 - 4 + 3 - 8 + 5 - 12 + 7 - 16);
+        CHECK.due("25: sums of eight", x.each(0, 2), 8);
+        CHECK.due("25: less of eight", x.each(0, 0), 8);
+        CHECK.due("25: twice of eight", x.each(0, 1), 8);
+        numbers("25: of eight", x, 0, -2, -6, -8, -12, -14, -18, -20, -24);
     }
 
     private static void drop() {

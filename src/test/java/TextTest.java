@@ -7,6 +7,7 @@ public final class TextTest {
         erase();
         sound();
         faults();
+        lettersOfOld();
         clauseLimit();
         mesh();
         meshEndsAll();
@@ -52,7 +53,7 @@ public final class TextTest {
         Object[][] texts = {
             {"", 0}, {"   ", 3}, {"mesh", 4}, {"mesh ", 5}, {"mesh 3 1 1", 10}, {"mesh 3 1 1  ", 12}, {";", 0}, {"link 0 1;", 9},
             {"link 0 1; ", 10}, {"link 0 1;;", 9}, {"link 0 1 2", 9}, {"link 0 1 link 0 1", 9}, {"mesh 3 1 1 1 1", 13},
-            {"Mesh 3 1 1 1", 0}, {"mes 3 1 1 1", 0}, {"meshx 3 1 1 1", 0}, {"mEsh 3 1 1 1", 0}, {"links 0 1", 0},
+            {"Mesh 3 1 1 1", 0}, {"xesh 3 1 1 1", 0}, {"mesh 3 1 1 1z", 12}, {"meshz 3 1 1 1", 0}, {"zmesh 3 1 1 1", 0}, {"mes 3 1 1 1", 0}, {"meshx 3 1 1 1", 0}, {"mEsh 3 1 1 1", 0}, {"links 0 1", 0},
             {"3", 0}, {"link", 4}, {"link x 1", 5}, {"link ; 1", 5}, {"link 0;", 6}, {"link 0 x", 7}, {"link 0, 1", 6},
             {"link 0 -1", 7}, {"link 0 1.", 8}, {"link 0 1x", 8}, {"link 01", 7}, {"link 3 0", 5}, {"link 0 3", 7},
             {"link 1 1", 7}, {"link 1 01", 7}, {"link 0000 1", 5}, {"link 0 0001", 7}, {"link 0\t1", 6}, {"link\n0 1", 4},
@@ -71,6 +72,39 @@ public final class TextTest {
             CHECK.due("5: '" + text + "'", x.mesh(), SlotMesh.NOT);
             CHECK.due("5: nothing changed by '" + text + "'", Check.picture(x).equals(before));
         }
+    }
+
+    /** Letters that were erased are not read again. */
+    private static void lettersOfOld() {
+        SlotMesh x = new SlotMesh();
+        Check.write(x, "link 0 1234");
+        x.erase();
+        Check.write(x, "link 0 1");
+        CHECK.due("4: digits of old", x.fault(), SlotMesh.NONE);
+        x.erase();
+        Check.write(x, "link0 1ab");
+        x.erase();
+        Check.write(x, "link");
+        CHECK.due("4: letters of old", x.fault(), 4);
+        x.erase();
+        Check.write(x, "meshes");
+        x.erase();
+        Check.write(x, "mesh");
+        CHECK.due("4: a word that was longer", x.fault(), 4);
+        x.erase();
+        Check.write(x, "share 0 1        ");
+        x.erase();
+        Check.write(x, "share 0 1");
+        CHECK.due("4: blanks of old", x.fault(), SlotMesh.NONE);
+        x.erase();
+        Check.write(x, "a".repeat(200));
+        CHECK.due("4: one word of 200", x.fault(), 0);
+        x.erase();
+        Check.write(x, "want 0 " + "1".repeat(193));
+        CHECK.due("4: a number up to the last place", x.fault(), 7);
+        x.erase();
+        Check.write(x, "want 0 1" + " ".repeat(192));
+        CHECK.due("4: blanks up to the last place", x.fault(), SlotMesh.NONE);
     }
 
     private static void clauseLimit() {
