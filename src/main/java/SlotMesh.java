@@ -437,13 +437,11 @@ public final class SlotMesh {
             Arrays.fill(wants, FIRST_WANTED);
             Arrays.fill(shares, FIRST_SHARE);
             Arrays.fill(links, 0);
-            forgetCycles();
         }
 
         void forgetCycles() {
             cycled = false;
             Arrays.fill(holds, 0);
-            Arrays.fill(phases, 0);
         }
 
         void copyFrom(Mesh other) {
@@ -657,7 +655,11 @@ public final class SlotMesh {
                     taken |= holds[s];
                 }
             }
-            return Integer.numberOfTrailingZeros(~taken);
+            int slot = 0;
+            while (slot < MOST_STATIONS && has(taken, slot)) {
+                slot++;
+            }
+            return slot;
         }
     }
 

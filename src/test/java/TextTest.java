@@ -53,6 +53,8 @@ public final class TextTest {
         Object[][] texts = {
             {"", 0}, {"   ", 3}, {"mesh", 4}, {"mesh ", 5}, {"mesh 3 1 1", 10}, {"mesh 3 1 1  ", 12}, {";", 0}, {"link 0 1;", 9},
             {"link 0 1; ", 10}, {"link 0 1;;", 9}, {"link 0 1 2", 9}, {"link 0 1 link 0 1", 9}, {"mesh 3 1 1 1 1", 13},
+            {"mesh 2 1 1 x", 11}, {"mesh 2 1 1;", 10}, {"share 0 ;", 8},
+            {"link 0" + " ".repeat(194), 200}, {"link" + " ".repeat(196), 200}, {" ".repeat(200), 200},
             {"Mesh 3 1 1 1", 0}, {"xesh 3 1 1 1", 0}, {"mesh 3 1 1 1z", 12}, {"meshz 3 1 1 1", 0}, {"zmesh 3 1 1 1", 0}, {"mes 3 1 1 1", 0}, {"meshx 3 1 1 1", 0}, {"mEsh 3 1 1 1", 0}, {"links 0 1", 0},
             {"3", 0}, {"link", 4}, {"link x 1", 5}, {"link ; 1", 5}, {"link 0;", 6}, {"link 0 x", 7}, {"link 0, 1", 6},
             {"link 0 -1", 7}, {"link 0 1.", 8}, {"link 0 1x", 8}, {"link 01", 7}, {"link 3 0", 5}, {"link 0 3", 7},
