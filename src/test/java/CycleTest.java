@@ -19,20 +19,6 @@ public final class CycleTest {
         CHECK.end();
     }
 
-    /** The lots as the document tells them. */
-    private static final class Lots {
-        private int lots;
-
-        Lots(int seed) {
-            lots = seed;
-        }
-
-        int of(int k) {
-            lots = (lots * 171 + 11213) % 53125;
-            return lots / 64 % k;
-        }
-    }
-
     private static void phases(String what, SlotMesh x, int... due) {
         for (int phase = 0; phase < 5; phase++) {
             CHECK.due("16: " + what + ", phase " + phase, x.phase(phase), due[phase]);
@@ -103,7 +89,7 @@ public final class CycleTest {
             ties += first == second ? 1 : 0;
             CHECK.due("8: the greater lot, seed " + seed, x.cycle(0), first >= second ? 1 : 2);
             phases("the greater lot, seed " + seed, x, 3, 0, 3, 12, first >= second ? 1 : 2);
-            CHECK.due("8: lots drawn, seed " + seed, x.told(7), lots.lots);
+            CHECK.due("8: lots drawn, seed " + seed, x.told(7), lots.now());
         }
         CHECK.due("8: there were like lots", ties > 0);
         SlotMesh far = Check.of("mesh 4 1 1 1;link 0 1;link 2 3;share 0 16;share 2 16;want 1 0;want 3 0");
@@ -120,7 +106,7 @@ public final class CycleTest {
             }
             CHECK.due("8: who hears an answer, seed " + seed, x.cycle(0), 2);
             phases("who hears an answer, seed " + seed, x, 3, 0, 3, 4, 2);
-            CHECK.due("8: who hears none draws too, seed " + seed, x.told(7), lots.lots);
+            CHECK.due("8: who hears none draws too, seed " + seed, x.told(7), lots.now());
         }
     }
 
