@@ -10,6 +10,9 @@ public final class LanguageTest {
         "->", "::", "\\bpackage\\b", "\\bprotected\\b", "\\bvar\\b", "\\bException\\b", "\\bSystem\\.(?!arraycopy\\b)",
         "\\w+Exact\\b", "\\bThread\\b", "\\bRandom\\b", "\\bhashCode\\b", "\\btoString\\b", "\\bequals\\b", "[^\\x00-\\x7f]"};
 
+    private static final String LIBRARY = "(System\\.arraycopy|Arrays\\.fill|Integer\\.bitCount|Math\\.(max|min))\\(";
+    private static final String MADE_ONCE = " *((private )?final \\S+ \\w+|(keeps|tallies|ring)\\[\\w\\]) = new .*;";
+
     public static void main(String[] args) throws Exception {
         Check check = new Check("LanguageTest");
         String source = Files.readString(Path.of("src/main/java/SlotMesh.java"));
@@ -27,8 +30,22 @@ public final class LanguageTest {
             count++;
         }
         check.due("classes at most twelve", count <= 12);
+        libraryCalls(check, code);
         longestMethod(check, code);
         check.end();
+    }
+
+    /** Rule 4, and rule 12 as the class keeps it: rows are made as fields or by constructors, never by a call. */
+    private static void libraryCalls(Check check, String code) {
+        Matcher calls = Pattern.compile("\\b([A-Z]\\w*)\\.(\\w+)\\(").matcher(code);
+        while (calls.find()) {
+            check.due("calls " + calls.group(1) + "." + calls.group(2), calls.group().matches(LIBRARY));
+        }
+        for (String line : code.split("\n")) {
+            if (line.matches(".*\\bnew\\b.*")) {
+                check.due("makes an object: " + line.trim(), line.matches(MADE_ONCE));
+            }
+        }
     }
 
     private static void longestMethod(Check check, String code) {
